@@ -279,6 +279,18 @@ public final class GalaHeats {
             finalTime = NOT_SWUM;
         }
 
+        boolean isIn(int itsHeat) {
+            return itsHeat == THE_FINAL ? finalLane != 0 : heat == itsHeat;
+        }
+
+        int laneOf(int itsHeat) {
+            return itsHeat == THE_FINAL ? finalLane : heatLane;
+        }
+
+        int timeOf(int itsHeat) {
+            return itsHeat == THE_FINAL ? finalTime : heatTime;
+        }
+
         boolean aheadByEntry(Swimmer other) {
             if (entry != other.entry) {
                 return other.entry == 0 || (entry != 0 && entry < other.entry);
@@ -369,10 +381,6 @@ public final class GalaHeats {
 
         boolean hasHeat(int heat) {
             return heat == THE_FINAL ? stage >= FINAL : heat >= 0 && heat < heats;
-        }
-
-        boolean isIn(Swimmer swimmer, int heat) {
-            return heat == THE_FINAL ? swimmer.finalLane != 0 : swimmer.heat == heat;
         }
 
         int notScratched() {
@@ -833,8 +841,7 @@ public final class GalaHeats {
         static int inLane(Meet meet, int heat, int lane) {
             for (int number = 0; number < meet.size; number++) {
                 Swimmer swimmer = meet.all[number];
-                int itsLane = heat == THE_FINAL ? swimmer.finalLane : swimmer.heatLane;
-                if (meet.isIn(swimmer, heat) && itsLane == lane) {
+                if (swimmer.isIn(heat) && swimmer.laneOf(heat) == lane) {
                     return number;
                 }
             }
@@ -842,22 +849,51 @@ public final class GalaHeats {
         }
 
         static int ofHeat(Meet meet, int heat, int what) {
+            switch (what) {
+                case 0:
+                    return countIn(meet, heat, false);
+                case 1:
+                    return countIn(meet, heat, true);
+                case 2:
+                    return leastIn(meet, heat, false);
+                case 3:
+                    return greatestEntryIn(meet, heat);
+                default:
+                    return leastIn(meet, heat, true);
+            }
+        }
+
+        static int countIn(Meet meet, int heat, boolean whoSwam) {
             int found = 0;
-            int extreme = 0;
             for (int number = 0; number < meet.size; number++) {
                 Swimmer swimmer = meet.all[number];
-                if (meet.isIn(swimmer, heat)) {
-                    int time = heat == THE_FINAL ? swimmer.finalTime : swimmer.heatTime;
-                    int value = what == 4 ? time : swimmer.entry;
-                    if (what != 1 || time != NOT_SWUM) {
-                        found++;
-                    }
-                    if (value > 0 && (extreme == 0 || (what == 3 ? value > extreme : value < extreme))) {
-                        extreme = value;
-                    }
+                if (swimmer.isIn(heat) && (!whoSwam || swimmer.timeOf(heat) != NOT_SWUM)) {
+                    found++;
                 }
             }
-            return what < 2 ? found : aboveZero(extreme);
+            return found;
+        }
+
+        static int leastIn(Meet meet, int heat, boolean swum) {
+            int least = 0;
+            for (int number = 0; number < meet.size; number++) {
+                Swimmer swimmer = meet.all[number];
+                int time = swum ? swimmer.timeOf(heat) : swimmer.entry;
+                if (swimmer.isIn(heat) && time > 0 && (least == 0 || time < least)) {
+                    least = time;
+                }
+            }
+            return aboveZero(least);
+        }
+
+        static int greatestEntryIn(Meet meet, int heat) {
+            int greatest = 0;
+            for (int number = 0; number < meet.size; number++) {
+                if (meet.all[number].isIn(heat) && meet.all[number].entry > greatest) {
+                    greatest = meet.all[number].entry;
+                }
+            }
+            return aboveZero(greatest);
         }
 
         static int meanBits(Meet meet) {
@@ -1022,7 +1058,6 @@ public final class GalaHeats {
         }
 
         void rewind() {
-            start = 0;
             position = 0;
         }
 

@@ -12,6 +12,9 @@ public final class OutlookTest {
         countRecord();
         countRefused();
         undo();
+        undoAmongErrors();
+        undoForgets();
+        undoReserves();
         undoEachChange();
         errorsChangeNothing();
         Checks.finish();
@@ -280,6 +283,60 @@ public final class OutlookTest {
         Checks.due("empty again", gala.undo(), Checks.IMPOSSIBLE);
         Checks.due("anew", gala.enter(5, 900), 3);
         Checks.due("undo()", gala.undo(), 0);
+    }
+
+    private static void undoAmongErrors() {
+        GalaHeats gala = new GalaHeats();
+        Checks.due("an error ahead of all", gala.scratch(0), Checks.INVALID);
+        for (int number = 0; number < 6; number++) {
+            gala.enter(0, 200 + number);
+            Checks.due("an error among the changes", gala.swim(0, 200), Checks.IMPOSSIBLE);
+        }
+        for (int left = 3; left >= 0; left--) {
+            Checks.due("undo()", gala.undo(), left);
+            Checks.due("swimmers", gala.count(1), left + 2);
+            Checks.due("an error among them", gala.next(), Checks.IMPOSSIBLE);
+        }
+    }
+
+    private static void undoForgets() {
+        GalaHeats gala = new GalaHeats();
+        Checks.typeAll(gala, "e1,300;x0;e0,300;d;s1,299;f;s1,298;o;");
+        gala.play();
+        Checks.due("points", gala.points(0), 18);
+        gala.undo();
+        Checks.due("points", gala.points(0), 0);
+        Checks.due("record", gala.count(8), Checks.NONE);
+        gala.enter(0, 300);
+        gala.enter(0, 0);
+        for (int number = 0; number < 2; number++) {
+            for (int what = 3; what <= 9; what++) {
+                Checks.due("swimmer(" + number + ", " + what + ")", gala.swimmer(number, what), Checks.NONE);
+            }
+            Checks.due("scratched", gala.swimmer(number, 10), 0);
+            Checks.due("half points", gala.swimmer(number, 11), 0);
+        }
+    }
+
+    private static void undoReserves() {
+        GalaHeats gala = Checks.inFinal(4, 300, 310, 320, 330, 340, 350);
+        gala.scratch(4);
+        gala.undo();
+        gala.undo();
+        Checks.due("ahead of the final", gala.reserve(0), Checks.NONE);
+        gala.swim(4, 360);
+        gala.finals();
+        Checks.due("reserve(0)", gala.reserve(0), 5);
+        Checks.due("reserve(1)", gala.reserve(1), 4);
+        gala.undo();
+        gala.undo();
+        gala.finals();
+        Checks.due("reserve(0)", gala.reserve(0), 4);
+        gala.scratch(0);
+        gala.undo();
+        Checks.due("not called any more", gala.reserve(0), 4);
+        Checks.due("called so far", gala.count(10), 0);
+        Checks.due("called anew", gala.scratch(1), 4);
     }
 
     /** All that the questions tell, as one text, so that two states can be held against each other. */

@@ -17,6 +17,8 @@ public final class StagesTest {
         endWithoutTimes();
         endRefused();
         next();
+        nextBetters();
+        nextForgetsReserves();
         nextRefused();
         Checks.finish();
     }
@@ -292,6 +294,35 @@ public final class StagesTest {
         Checks.due("a new one enters", gala.enter(0, 100), 6);
         gala.draw();
         Checks.due("by the new entry times", gala.swimmer(0, 2), 1);
+    }
+
+    private static void nextBetters() {
+        GalaHeats gala = Checks.gala(4, 0, 0, 0, 300, 0, 300);
+        gala.draw();
+        Checks.swimAll(gala, 290, 291, 292, 300, 500, 310);
+        gala.finals();
+        Checks.swimAll(gala, 0, 280, 293, 300);
+        gala.end();
+        Checks.due("four of them had none", gala.next(), 4);
+        int[] entries = {290, 280, 292, 300, 500, 300};
+        for (int number = 0; number < entries.length; number++) {
+            Checks.due("entry of " + number, gala.swimmer(number, 1), entries[number]);
+        }
+    }
+
+    private static void nextForgetsReserves() {
+        GalaHeats gala = Checks.inFinal(4, 300, 310, 320, 330, 340, 350);
+        Checks.swimAll(gala, 300, 310, 320, 330);
+        gala.end();
+        gala.next();
+        Checks.due("no reserves", gala.reserve(0), Checks.NONE);
+        gala.draw();
+        Checks.swimAll(gala, 0, 310, 320, 330, 340, 350);
+        gala.finals();
+        Checks.due("reserve(0)", gala.reserve(0), 5);
+        Checks.due("one alone", gala.reserve(1), Checks.NONE);
+        Checks.due("called", gala.scratch(1), 5);
+        Checks.due("nobody else", gala.scratch(5), 100);
     }
 
     private static void nextRefused() {
