@@ -985,7 +985,7 @@ public final class GalaHeats {
         }
     }
 
-    /** One row more than are kept: the state ahead of a call is written there before the call is known to be a change. */
+    /** One row more than are kept: the state ahead of a call is written before the call is known to be a change. */
     private static final class History {
         final Meet[] rows = new Meet[HISTORY_LIMIT + 1];
         int kept;
