@@ -2,6 +2,7 @@
 public final class AgainstPlainGalaTest {
     private static final int RUNS = 1500;
     private static final int CALLS = 512;
+    private static final int CALLS_AHEAD_OF_PLAY = 120;
 
     private long seed;
     private int run;
@@ -9,15 +10,20 @@ public final class AgainstPlainGalaTest {
     private GalaHeats gala;
     private PlainGala plain;
     private final int[] reached = new int[4];
+    private int playsOverStages;
 
     public static void main(String[] args) {
         AgainstPlainGalaTest test = new AgainstPlainGalaTest();
         for (int run = 0; run < RUNS; run++) {
-            test.doRun(run);
+            test.begin(run);
+            test.doMixedRun();
+            test.begin(RUNS + run);
+            test.doRunThatEndsInQuestions();
         }
         for (int stage = 0; stage < 4; stage++) {
             Checks.due("stage " + stage + " was reached often (1: yes)", test.reached[stage] > RUNS * 10 ? 1 : 0, 1);
         }
+        Checks.due("plays went over more than one stage often (1: yes)", test.playsOverStages > RUNS / 10 ? 1 : 0, 1);
         Checks.finish();
     }
 
@@ -27,12 +33,15 @@ public final class AgainstPlainGalaTest {
         return (int) Math.floorMod(seed >>> 33, (long) bound);
     }
 
-    private void doRun(int itsNumber) {
+    private void begin(int itsNumber) {
         run = itsNumber;
         seed = 77 + 1000003L * run;
         calls = 0;
         gala = new GalaHeats();
         plain = new PlainGala();
+    }
+
+    private void doMixedRun() {
         int eagerness = 2 + pick(12);
         while (calls < CALLS) {
             int kind = pick(10);
@@ -45,6 +54,25 @@ public final class AgainstPlainGalaTest {
             } else {
                 question();
             }
+        }
+    }
+
+    /** A play of many orders and some undos: what they leave is looked at by all the calls that are left. */
+    private void doRunThatEndsInQuestions() {
+        int eagerness = 2 + pick(6);
+        while (calls < CALLS_AHEAD_OF_PLAY) {
+            if (pick(8) == 0) {
+                anyChange();
+            } else {
+                stepOn(eagerness);
+            }
+        }
+        playPossibleOrders();
+        for (int undone = pick(6); undone > 0; undone--) {
+            same("undo()", gala.undo(), plain.undo());
+        }
+        while (calls < CALLS) {
+            question();
         }
     }
 
@@ -209,6 +237,37 @@ public final class AgainstPlainGalaTest {
         }
         same("play()", gala.play(), plain.play());
         same("count(12)", gala.count(12), plain.count(12));
+    }
+
+    private void playPossibleOrders() {
+        String orders = "";
+        for (int attempt = 0; attempt < 100; attempt++) {
+            String more = orders + orderOfAnyStage();
+            if (more.length() <= 60 && isPossible(more)) {
+                orders = more;
+            }
+        }
+        plain.clearText();
+        int before = plain.count(0);
+        orders.chars().forEach(sign -> same("type(" + sign + ")", gala.type(sign), plain.type(sign)));
+        same("fault(0)", gala.fault(0), plain.fault(0));
+        same("play()", gala.play(), plain.play());
+        playsOverStages += Math.floorMod(plain.count(0) - before, 4) > 1 ? 1 : 0;
+    }
+
+    private boolean isPossible(String orders) {
+        plain.clearText();
+        orders.chars().forEach(plain::type);
+        return plain.fault(0) == PlainGala.NONE;
+    }
+
+    private String orderOfAnyStage() {
+        int kind = pick(10);
+        if (kind < 4) {
+            return "dfon".charAt(kind) + ";";
+        }
+        int number = pick(Math.max(1, plain.count(1)));
+        return kind == 4 ? "e" + pick(6) + "," + time() + ";" : kind == 5 ? "x" + number + ";" : "s" + number + "," + time() + ";";
     }
 
     /** Mostly an order that fits the stage; sometimes with a sign changed, or cut off. */
